@@ -58,7 +58,7 @@ public final class RocketsAsk {
     private final Valley mind = new Valley();
     private final Valley picture = new Valley();
     private boolean pictured = false;
-    private final char[] letters = new char[MOST_LETTERS];
+    private final int[] letters = new int[MOST_LETTERS];
     private int letterCount = 0;
     private final int[] told = new int[MOST_ROW];
     private int toldCount = 0;
@@ -79,7 +79,7 @@ public final class RocketsAsk {
         if (c > MOST_LETTER || letterCount >= MOST_LETTERS) {
             return refuse(ROOM);
         }
-        letters[letterCount] = (char) c;
+        letters[letterCount] = c;
         letterCount++;
         return letterCount;
     }
@@ -326,22 +326,7 @@ public final class RocketsAsk {
         if (fault != FINE) {
             return refuse(fault);
         }
-        thinkOn(n);
-        int most = mind.countWords();
-        int best = NONE;
-        for (int rocket = 0; rocket < now.rockets; rocket++) {
-            if (!now.isSent(rocket)) {
-                mind.copyFrom(now);
-                mind.throwAway(rocket);
-                mind.passNights(n, EVERYBODY);
-                int have = mind.countWords();
-                if (have > most) {
-                    most = have;
-                    best = rocket;
-                }
-            }
-        }
-        return best;
+        return bestToSpend(n, false);
     }
 
     public int firstUp(int n) {
@@ -349,22 +334,7 @@ public final class RocketsAsk {
         if (fault != FINE) {
             return refuse(fault);
         }
-        thinkOn(n);
-        int most = mind.countWords();
-        int best = NONE;
-        for (int rocket = 0; rocket < now.rockets; rocket++) {
-            if (now.canSend(rocket)) {
-                mind.copyFrom(now);
-                mind.sendUp(rocket, EVERYBODY);
-                mind.passNights(n, EVERYBODY);
-                int have = mind.countWords();
-                if (have > most) {
-                    most = have;
-                    best = rocket;
-                }
-            }
-        }
-        return best;
+        return bestToSpend(n, true);
     }
 
     public int longest(int what) {
@@ -509,7 +479,7 @@ public final class RocketsAsk {
             } else {
                 mind.kind[rocket] = choice;
             }
-            mind.letRead(rocket, EVERYBODY);
+            mind.sendUp(rocket, EVERYBODY);
             if (rowFitsMind()) {
                 bits |= 1 << choice;
             }
@@ -538,7 +508,7 @@ public final class RocketsAsk {
             if (told[i] != Math.min(mind.money, MOST_OF_ROW)) {
                 return i;
             }
-            mind.passNight(EVERYBODY);
+            mind.passNights(1, EVERYBODY);
         }
         return NONE;
     }
@@ -564,7 +534,7 @@ public final class RocketsAsk {
             for (int i = 0; i < SEASON; i++) {
                 seed = seed * 1664525 + 1013904223;
                 mind.blows = (seed & 0x7fffffff) / 256 % WINDS;
-                mind.passNight(EVERYBODY);
+                mind.passNights(1, EVERYBODY);
             }
             sum += what == 0 ? mind.countWhole() : mind.countWords();
         }
@@ -629,8 +599,8 @@ public final class RocketsAsk {
 
     // ---- letters of a valley
 
-    /** How many letters stand behind a statement's first one, with the ";"; -1: none begins so. */
-    private static int lettersBehind(char first) {
+    /** How many letters stand behind a statement's first one, with the ";"; 0: none begins so. */
+    private static int lettersBehind(int first) {
         switch (first) {
             case 'r': return 4;
             case 'p': return 4;
@@ -639,25 +609,24 @@ public final class RocketsAsk {
             case 's': return 2;
             case 'w': return 2;
             case 'b': return 2;
-            default: return -1;
+            default: return 0;
         }
     }
 
     /** The place of the first letter with which no valley goes on (the end, if some lack), or -1. */
     private int wrongLetter(int length) {
-        char first = ';';
+        int first = ';';
         int lacking = 0;
         for (int place = 0; place < length; place++) {
-            char c = letters[place];
+            int c = letters[place];
             if (lacking == 0) {
                 first = c;
                 lacking = lettersBehind(c);
-                if (lacking < 0) {
+                if (lacking == 0) {
                     return place;
                 }
             } else {
-                boolean ofKind = first == 'r' && lacking == 4;
-                if (!(lacking == 1 ? c == ';' : ofKind ? isKind(c) : isDigit(c))) {
+                if (!canStand(c, first, lacking)) {
                     return place;
                 }
                 lacking--;
@@ -666,12 +635,19 @@ public final class RocketsAsk {
         return lacking > 0 || length == 0 ? length : -1;
     }
 
-    private static boolean isKind(char c) {
-        return KIND_LETTERS.indexOf(c) >= 0;
+    /** Whether c can stand in a statement that began with first and lacks so many letters yet. */
+    private static boolean canStand(int c, int first, int lacking) {
+        if (lacking == 1) {
+            return c == ';';
+        }
+        if (first == 'r' && lacking == 4) {
+            return kindOf(c) >= 0;
+        }
+        return c >= '0' && c <= '9';
     }
 
-    private static boolean isDigit(char c) {
-        return c >= '0' && c <= '9';
+    private static int kindOf(int c) {
+        return KIND_LETTERS.indexOf((char) c);
     }
 
     private int numberAt(int place, int digits) {
@@ -705,8 +681,7 @@ public final class RocketsAsk {
         if (place + 1 >= MOST_LETTERS) {
             return false;
         }
-        int kind = KIND_LETTERS.indexOf(letters[place + 1]);
-        return mind.addRocket(kind, numberAt(place + 2, 1), numberAt(place + 3, 1));
+        return mind.addRocket(kindOf(letters[place + 1]), numberAt(place + 2, 1), numberAt(place + 3, 1));
     }
 
     private boolean rocketGoesUp(int rocket) {
@@ -746,7 +721,7 @@ public final class RocketsAsk {
             if (mind.isWhole(reader)) {
                 return n;
             }
-            mind.passNight(EVERYBODY);
+            mind.passNights(1, EVERYBODY);
         }
         return NONE;
     }
@@ -770,7 +745,7 @@ public final class RocketsAsk {
             if (mind.upNext() == NONE) {
                 return n;
             }
-            mind.passNight(EVERYBODY);
+            mind.passNights(1, EVERYBODY);
         }
         return NONE;
     }
@@ -830,6 +805,34 @@ public final class RocketsAsk {
             }
         }
         return least;
+    }
+
+    /** The rocket that, sent or else thrown away now, lets more words be had behind n nights. */
+    private int bestToSpend(int n, boolean sending) {
+        thinkOn(n);
+        int most = mind.countWords();
+        int best = NONE;
+        for (int rocket = 0; rocket < now.rockets; rocket++) {
+            if (sending ? now.canSend(rocket) : !now.isSent(rocket)) {
+                int have = wordsHadBySpending(rocket, n, sending);
+                if (have > most) {
+                    most = have;
+                    best = rocket;
+                }
+            }
+        }
+        return best;
+    }
+
+    private int wordsHadBySpending(int rocket, int n, boolean sending) {
+        mind.copyFrom(now);
+        if (sending) {
+            mind.sendUp(rocket, EVERYBODY);
+        } else {
+            mind.throwAway(rocket);
+        }
+        mind.passNights(n, EVERYBODY);
+        return mind.countWords();
     }
 
     private int longestDark() {
@@ -900,7 +903,7 @@ public final class RocketsAsk {
     private boolean isWholeAfter(int reader, int n, int dry) {
         mind.copyFrom(now);
         for (int i = 0; i < n; i++) {
-            mind.passNight((dry >> i & 1) == 1 ? EVERYBODY : 0);
+            mind.passNights(1, (dry >> i & 1) == 1 ? EVERYBODY : 0);
         }
         return mind.isWhole(reader);
     }
@@ -1067,11 +1070,21 @@ public final class RocketsAsk {
             return hasRocket(rocket) && !isSent(rocket) && costOf(rocket) <= money;
         }
 
-        /** Eyes: the readers (bits) who read it, if they are near enough. */
+        /**
+         * Eyes: the readers (bits) who read it, if they are near enough. Who asks whether it can
+         * be asks before: in mind a rocket may go up again, or for more than there is.
+         */
         void sendUp(int rocket, int eyes) {
             money -= costOf(rocket);
             throwAway(rocket);
-            letRead(rocket, eyes);
+            int reading = readersOf(rocket) & eyes;
+            for (int reader = 0; reader < readers; reader++) {
+                int place = reader * WORDS + word[rocket];
+                int kept = minds[reader] == MINDS_FOR_EVER ? FOR_EVER : minds[reader];
+                if ((reading >> reader & 1) == 1 && kept > left[place]) {
+                    left[place] = kept;
+                }
+            }
         }
 
         void throwAway(int rocket) {
@@ -1080,17 +1093,6 @@ public final class RocketsAsk {
 
         void putBack(int rocket) {
             sent &= ~(1 << rocket);
-        }
-
-        void letRead(int rocket, int eyes) {
-            int reading = readersOf(rocket) & eyes;
-            for (int reader = 0; reader < readers; reader++) {
-                if ((reading >> reader & 1) == 1) {
-                    int place = reader * WORDS + word[rocket];
-                    int kept = minds[reader] == MINDS_FOR_EVER ? FOR_EVER : minds[reader];
-                    left[place] = Math.max(left[place], kept);
-                }
-            }
         }
 
         /** The least rocket in the box that the grant is enough for. */
@@ -1105,16 +1107,12 @@ public final class RocketsAsk {
 
         void passNights(int n, int eyes) {
             for (int i = 0; i < n; i++) {
-                passNight(eyes);
-            }
-        }
-
-        void passNight(int eyes) {
-            night++;
-            forget();
-            int rocket = upNext();
-            if (rocket != NONE) {
-                sendUp(rocket, eyes);
+                night++;
+                forget();
+                int rocket = upNext();
+                if (rocket != NONE) {
+                    sendUp(rocket, eyes);
+                }
             }
         }
 
