@@ -990,7 +990,8 @@ public final class RocketsAsk {
         }
 
         boolean addRocket(int newKind, int newFigure, int newWord) {
-            if (newKind < 0 || newWord >= WORDS || rockets >= MOST_ROCKETS) {
+            boolean known = newKind >= 0 && newKind < KINDS && newWord >= 0 && newWord < WORDS;
+            if (!known || rockets >= MOST_ROCKETS) {
                 return false;
             }
             kind[rockets] = newKind;
@@ -1001,7 +1002,7 @@ public final class RocketsAsk {
         }
 
         boolean addReader(int place, int newMinds) {
-            if (place >= PLACES || readers >= MOST_READERS) {
+            if (place < 0 || place >= PLACES || readers >= MOST_READERS) {
                 return false;
             }
             at[readers] = place;

@@ -314,6 +314,11 @@ public final class ThoughtTest {
         CHECK.due("words(0)", x.words(0), 0);
         CHECK.due("words(1)", x.words(1), 47);
         CHECK.due("words(2)", x.words(2), 4);
+        x = CHECK.told("p139;p109;rg00;rr01;s0;s1;");
+        CHECK.due("the first lacks it", x.words(1), 1);
+        x = CHECK.told("p109;p109;p109;p109;p139;rg00;rg01;rr02;rg03;rg04;rg05;" + SIX_SENT);
+        CHECK.due("four of five have it", x.words(2), 2);
+        CHECK.due("four of five have it", x.words(1), 59);
         x = CHECK.told("p109;" + SIX_SPARKS + SIX_SENT);
         CHECK.due("words(1)", x.words(1), 63);
         CHECK.due("words(2)", x.words(2), 0);
