@@ -24,10 +24,12 @@ final class Check {
         return x.valley();
     }
 
-    /** A new object to which a valley without fault was told. */
-    RocketsAsk told(String text) {
+    /** A new object to which valleys without fault were told, one behind the other. */
+    RocketsAsk told(String... texts) {
         RocketsAsk x = new RocketsAsk();
-        due("valley of " + text, tell(x, text), text.chars().filter(c -> c == ';').count());
+        for (String text : texts) {
+            due("valley of " + text, tell(x, text), text.chars().filter(c -> c == ';').count());
+        }
         return x;
     }
 
@@ -51,6 +53,21 @@ final class Check {
             }
         }
         return all.toString();
+    }
+
+    /** The look, and what hides behind it: wind, row, letters and image; they are used up by it. */
+    static String lookThrough(RocketsAsk x) {
+        StringBuilder all = new StringBuilder(look(x));
+        int wind = x.wind(5);
+        x.wind(wind);
+        all.append("wind ").append(wind);
+        for (int r = 0; r < x.count(0); r++) {
+            all.append(" said ").append(x.whatSaid(r, 0)).append(' ').append(x.whatSaid(r, 1));
+        }
+        all.append(" judged ").append(x.judge());
+        all.append(" letters ").append(x.valley()).append(": ").append(look(x));
+        all.append("image ").append(x.on()).append(": ").append(look(x));
+        return all.append("wind ").append(x.wind(5)).toString();
     }
 
     static String refusals(RocketsAsk x) {
