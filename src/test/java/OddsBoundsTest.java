@@ -47,6 +47,13 @@ public final class OddsBoundsTest {
         CHECK.due("1 NIGHT", x.two(0, 1, 1), 0);
         CHECK.due("2 NIGHTS", x.two(0, 1, 2), 11);
         CHECK.due("30 NIGHTS", x.two(0, 1, 30), 11);
+        CHECK.due("the other way round", x.two(1, 0, 2), 11);
+        Check.tell(x, "p109;p109;p109;");
+        for (int a = 0; a < 5; a++) {
+            for (int b = 0; b < 5; b++) {
+                CHECK.due("two of five", x.two(a, b, 2), a == b ? -1 : 11);
+            }
+        }
         x = CHECK.told("p102;p109;" + SIX_SPARKS);
         CHECK.due("while he minds two", x.two(0, 1, 6), 11);
         CHECK.due("while he minds one", x.two(0, 1, 7), 1);

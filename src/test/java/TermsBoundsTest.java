@@ -21,7 +21,9 @@ public final class TermsBoundsTest {
         aRocketMoreIsLastInTheBox();
         figuresByTwoAreCut();
         halfOfARocketsIsCut();
+        darkOfEachKind();
         burstsAreHeldTo0To19();
+        boxesFromNoneToAll();
         sendingNeedsWhatItCosts();
         noFartherThanItIsRead();
         wordsForMindsNights();
@@ -195,6 +197,26 @@ public final class TermsBoundsTest {
         }
     }
 
+    private static void darkOfEachKind() {
+        int[] least = {1, 0, 2, 2, 9, 2};
+        int[] most = {10, 0, 20, 20, 9, 20};
+        for (int kind = 0; kind < 6; kind++) {
+            String rocket = "r" + KINDS.charAt(kind);
+            CHECK.due("DARK of figure 0", CHECK.told(rocket + "00;").rocket(0, 6), least[kind]);
+            CHECK.due("DARK of figure 9", CHECK.told(rocket + "90;").rocket(0, 6), most[kind]);
+        }
+    }
+
+    private static void boxesFromNoneToAll() {
+        RocketsAsk x = CHECK.told("rs00;".repeat(9), "s0;s1;s2;s3;s4;s5;s6;s7;s8;");
+        for (int rocket = 8; rocket >= 0; rocket--) {
+            CHECK.due("how many are in THE BOX", x.boxes(rocket), 9 - rocket);
+            CHECK.due("in it already", x.boxes(rocket), -3);
+        }
+        CHECK.due("nothing is SENT", x.count(4), 0);
+        CHECK.due("nothing is paid back", x.count(3), 91);
+    }
+
     private static void burstsAreHeldTo0To19() {
         int[] drifting = {0, 0, 1, 4, 7, 10, 13, 16, 19, 19};
         RocketsAsk x = CHECK.told("rr00;rs00;rg00;rd00;rq00;rl00;p009;p199;");
@@ -300,6 +322,12 @@ public final class TermsBoundsTest {
         CHECK.due("0 stays", x.keeps(1, 0), 0);
         CHECK.due("99 stays for ever", x.keeps(2, 0), 99);
         CHECK.due("NIGHT", x.count(2), 962);
+        x = CHECK.told("p102;".repeat(5) + SIX_SPARKS + "s0;s1;s2;s3;s4;s5;");
+        CHECK.due("all WORDS of five READERS", x.count(5), 30);
+        x.nights(1);
+        CHECK.due("all of them yet", x.count(5), 30);
+        x.nights(1);
+        CHECK.due("none of them", x.count(5), 0);
     }
 
     private static void forgettingComesBeforeSending() {
@@ -311,6 +339,9 @@ public final class TermsBoundsTest {
         x.nights(1);
         CHECK.due("forgotten", x.keeps(0, 0), 0);
         CHECK.due("another one", x.keeps(0, 1), 1);
+        x = CHECK.told("rs00;rs00;rs01;p101;n03;");
+        CHECK.due("forgotten, as told", x.keeps(0, 0), 0);
+        CHECK.due("another one, as told", x.keeps(0, 1), 1);
     }
 
     private static void theLeastRocketForWhichGrantIsEnough() {

@@ -12,6 +12,7 @@ public final class ThoughtBoundsTest {
     public static void main(String[] args) {
         inThoughtNightMayPass999();
         thoughtsChangeNothing();
+        questionsAreOfNow();
         wordsOfAReader();
         readersOfARocket();
         nightsOn0To60();
@@ -131,6 +132,42 @@ public final class ThoughtBoundsTest {
         }
     }
 
+    /** What was told or thought before is no more once the image, or a call, made it otherwise. */
+    private static void questionsAreOfNow() {
+        RocketsAsk x = new RocketsAsk();
+        x.image();
+        Check.tell(x, SOME);
+        x.whole(0);
+        x.on();
+        int[] due = {x.rocket(0, 0), x.reader(0, 0), x.keeps(0, 0), x.sends(0), x.boxes(6), x.stands(0, 0),
+            x.turn(0, 0, 0), x.wordsThen(0, 0), x.whole(0), x.fewest(0, 0), x.move(0, 0, 0), x.two(0, 1, 0),
+            x.whatSaid(0, 0)};
+        for (int refused : due) {
+            CHECK.due("on from nothing there is nobody", refused, -1);
+        }
+        CHECK.due("RAIN on nobody", x.rain(0, 0, 2, 0), 4000000000000000001L);
+        CHECK.due("FIRST of nobody", x.whole(-1), -9);
+        CHECK.due("NEXT of none", x.next(0), -9);
+        CHECK.due("LONGEST of none", x.longest(0), -9);
+        CHECK.due("COST of none", x.longest(1), 0);
+        CHECK.due("SEEN of none", x.seen(1), -9);
+        CHECK.due("LACKS of none", x.words(0), 63);
+        CHECK.due("KNOWN of nobody", x.words(1), 63);
+        CHECK.due("NEAR of nobody", x.near(), -9);
+        CHECK.due("ALONE of nobody", x.alone(), 0);
+        CHECK.due("TELL of nobody", x.tell(), -9);
+        CHECK.due("MEAN of none", x.mean(0), 0);
+        x = CHECK.told("p109;p139;rr00;rg20;");
+        x.turn(0, 3, 9);
+        x.stands(0, 1);
+        CHECK.due("DARK of now", x.rocket(0, 6), 20);
+        CHECK.due("LONGEST of now", x.longest(0), 0);
+        CHECK.due("MEAN of now", x.mean(0), 21);
+        CHECK.due("SEEN of now", x.seen(0), 2);
+        CHECK.due("NEAR of now", x.near(), 1);
+        CHECK.due("what it had", x.turn(0, 0, 0), 39);
+    }
+
     private static void wordsOfAReader() {
         CHECK.due("no WORDS", CHECK.told("p109;" + SIX_SPARKS).reader(0, 2), 0);
         CHECK.due("all WORDS", CHECK.told("p109;" + SIX_SPARKS + SIX_SENT).reader(0, 2), 63);
@@ -215,11 +252,17 @@ public final class ThoughtBoundsTest {
         CHECK.due("the one later", x.whole(0), 6);
         CHECK.due("the other now", x.whole(1), 0);
         CHECK.due("who is first", x.whole(-1), 1);
+        x = CHECK.told("p109;" + SIX_SPARKS + SIX_SENT + SIX_BACK, "p109;");
+        CHECK.due("the one now", x.whole(0), 0);
+        CHECK.due("the other later", x.whole(1), 6);
+        CHECK.due("who is first", x.whole(-1), 0);
+        CHECK.due("the fifth", CHECK.told("p009;p009;p009;p009;p109;" + SIX_SPARKS).whole(-1), 4);
     }
 
     private static void firstOfNone() {
         CHECK.due("no READERS", CHECK.told(SIX_SPARKS).whole(-1), -9);
         CHECK.due("none ever has it", CHECK.told("p009;p105;" + SIX_SPARKS).whole(-1), -9);
+        CHECK.due("none of five", CHECK.told("p009;p105;p129;p100;p199;" + SIX_SPARKS).whole(-1), -9);
         CHECK.due("nothing at all", new RocketsAsk().whole(-1), -9);
     }
 
@@ -468,6 +511,7 @@ public final class ThoughtBoundsTest {
         CHECK.due("QUIET 9 and ROCKET 9", CHECK.told("rs00;rq00;rr80;").longest(0), 1);
         CHECK.due("ROCKET 9 and QUIET 9", CHECK.told("rs00;rr80;rq90;").longest(0), 1);
         CHECK.due("QUIET 9 and ROCKET 10", CHECK.told("rq90;rr90;").longest(0), 1);
+        CHECK.due("the longest before others", CHECK.told("rr20;rr90;rr50;rs00;").longest(0), 1);
         CHECK.due("three of 20", CHECK.told("rr90;rg90;rd90;rl90;").longest(0), 1);
         CHECK.due("SENT or not", CHECK.told("rr50;rr90;s1;").longest(0), 1);
     }
@@ -484,6 +528,12 @@ public final class ThoughtBoundsTest {
         RocketsAsk x = CHECK.told("rs00;rr00;rr90;rl90;p109;p129;p169;p009;p199;");
         CHECK.due("most", x.seen(0), 5);
         CHECK.due("which", x.seen(1), 3);
+        x.turn(0, 5, 9);
+        CHECK.due("the first of all", x.seen(1), 0);
+        x.turn(0, 1, 0);
+        x.turn(3, 0, 0);
+        CHECK.due("the most before fewer", x.seen(0), 3);
+        CHECK.due("the most before fewer", x.seen(1), 2);
         x.turn(3, 0, 9);
         CHECK.due("two of 3", x.seen(0), 3);
         CHECK.due("the least of two", x.seen(1), 2);
@@ -520,6 +570,10 @@ public final class ThoughtBoundsTest {
         CHECK.due("0 is had", CHECK.told("p109;rs00;s0;").words(2), 1);
         CHECK.due("only 5 is not", CHECK.told("p109;" + SIX_SPARKS + "s0;s1;s2;s3;s4;").words(2), 5);
         CHECK.due("4 and 5 are not", CHECK.told("p109;" + SIX_SPARKS + "s0;s1;s2;s3;").words(2), 4);
+        CHECK.due("five of five have 5", CHECK.told("p109;p109;p109;p109;p129;rg00;rg01;rg02;rg03;rg04;rr05;", SIX_SENT)
+            .words(2), 0);
+        CHECK.due("four of five have 5", CHECK.told("p109;p109;p109;p109;p139;rg00;rg01;rg02;rg03;rg04;rr05;", SIX_SENT)
+            .words(2), 5);
         CHECK.due("fewer have 3", CHECK.told("p109;p129;rg00;rg01;rg02;rs03;rg04;rg05;" + SIX_SENT).words(2), 3);
     }
 
@@ -529,6 +583,7 @@ public final class ThoughtBoundsTest {
         CHECK.due("PLACE 19 is 9", CHECK.told("p000;p190;").near(), 1);
         CHECK.due("1 and 19 are alike", CHECK.told("p010;p190;").near(), 0);
         CHECK.due("19 and 1 are alike", CHECK.told("p190;p010;").near(), 0);
+        CHECK.due("the nearest before others", CHECK.told("p050;p110;p190;p120;").near(), 1);
         CHECK.due("at the mountain", CHECK.told("p090;p110;p100;p100;").near(), 2);
         CHECK.due("the fifth", CHECK.told("p000;p010;p190;p180;p090;").near(), 4);
     }
@@ -581,6 +636,7 @@ public final class ThoughtBoundsTest {
         CHECK.due("one alone", who("01234").tell(), -9);
         CHECK.due("one alone has all", who("012345").tell(), -9);
         CHECK.due("5 lacks", who("01234", "0123", "34").tell(), -9);
+        CHECK.due("none of five", who("0", "1", "2", "3", "4").tell(), -9);
         CHECK.due("no more than now", who("012345", "012345").tell(), -9);
         CHECK.due("what he forgot is not told", CHECK.told("p109;p101;" + SIX_SPARKS + SIX_SENT).tell(), -9);
         RocketsAsk x = CHECK.told("p101;p009;" + SIX_SPARKS + SIX_SENT);
