@@ -13,6 +13,8 @@ public final class ThoughtBoundsTest {
         inThoughtNightMayPass999();
         thoughtsChangeNothing();
         questionsAreOfNow();
+        questionsAreOfNothing();
+        questionsAreOfWhatChanged();
         wordsOfAReader();
         readersOfARocket();
         nightsOn0To60();
@@ -132,8 +134,28 @@ public final class ThoughtBoundsTest {
         }
     }
 
-    /** What was told or thought before is no more once the image, or a call, made it otherwise. */
+    /** As early(), but more was told and thought of in between. */
+    private static RocketsAsk earlyAgain(boolean sent) {
+        RocketsAsk x = early();
+        x.image();
+        Check.tell(x, "p109;p109;p109;rl93;w5;g999;b6;b4;" + (sent ? "n09;" : ""));
+        x.then(sent ? 60 : 0, 0);
+        x.on();
+        return x;
+    }
+
     private static void questionsAreOfNow() {
+        int number = 0;
+        for (ToLongFunction<RocketsAsk> thought : thoughts()) {
+            long due = thought.applyAsLong(early());
+            CHECK.due("thought " + number + " of now", thought.applyAsLong(earlyAgain(true)), due);
+            CHECK.due("thought " + number + " of now", thought.applyAsLong(earlyAgain(false)), due);
+            number++;
+        }
+    }
+
+    /** What was told before is no more once the image, or a call, made it otherwise. */
+    private static void questionsAreOfNothing() {
         RocketsAsk x = new RocketsAsk();
         x.image();
         Check.tell(x, SOME);
@@ -157,7 +179,10 @@ public final class ThoughtBoundsTest {
         CHECK.due("ALONE of nobody", x.alone(), 0);
         CHECK.due("TELL of nobody", x.tell(), -9);
         CHECK.due("MEAN of none", x.mean(0), 0);
-        x = CHECK.told("p109;p139;rr00;rg20;");
+    }
+
+    private static void questionsAreOfWhatChanged() {
+        RocketsAsk x = CHECK.told("p109;p139;rr00;rg20;");
         x.turn(0, 3, 9);
         x.stands(0, 1);
         CHECK.due("DARK of now", x.rocket(0, 6), 20);
