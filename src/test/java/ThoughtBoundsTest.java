@@ -191,6 +191,23 @@ public final class ThoughtBoundsTest {
         CHECK.due("SEEN of now", x.seen(0), 2);
         CHECK.due("NEAR of now", x.near(), 1);
         CHECK.due("what it had", x.turn(0, 0, 0), 39);
+        x = earlyAgain(true);
+        CHECK.due("THE BOX of now", x.boxes(6), 7);
+        CHECK.due("the other is nobody now", x.two(0, 2, 0), -1);
+        CHECK.due("the first is nobody now", x.two(2, 0, 0), -1);
+        x = CHECK.told("p109;" + SIX_SPARKS + SIX_SENT);
+        x.image();
+        Check.tell(x, "p009;");
+        CHECK.due("there is one to be told", x.tell(), 1);
+        x.on();
+        CHECK.due("there is nobody to be told now", x.tell(), -9);
+        x = CHECK.told("p109;" + SIX_SPARKS);
+        x.sends(0);
+        CHECK.due("RARE of now", x.words(2), 1);
+        CHECK.due("KNOWN of now", x.words(1), 1);
+        CHECK.due("ALONE of now", x.alone(), 1);
+        x.nights(1);
+        CHECK.due("RARE of now", x.words(2), 2);
     }
 
     private static void wordsOfAReader() {
