@@ -83,6 +83,11 @@ public final class OddsBoundsTest {
         x = CHECK.told("p109;" + SIX_SPARKS + SIX_SENT + "b5;p109;");
         CHECK.due("he has it whatever he does", x.two(0, 1, 1), 0);
         CHECK.due("he has it whatever he does", x.two(1, 0, 1), 0);
+        x = CHECK.told("p109;p109;" + SIX_SPARKS + "s0;s1;s2;s3;s4;");
+        x.stands(0, 0);
+        // the last WORD comes to one alone: 6 - 1 + 3 for looking, where 6 - 1 would be no more than 5
+        CHECK.due("the other looks for the QUESTION", x.two(0, 1, 1), 1);
+        CHECK.due("the first looks for the QUESTION", x.two(1, 0, 1), 10);
     }
 
     private static void twoTheFirstPair() {

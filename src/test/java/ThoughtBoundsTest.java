@@ -12,6 +12,7 @@ public final class ThoughtBoundsTest {
     public static void main(String[] args) {
         inThoughtNightMayPass999();
         thoughtsChangeNothing();
+        thoughtsDoNotHearEachOther();
         questionsAreOfNow();
         questionsAreOfNothing();
         questionsAreOfWhatChanged();
@@ -131,6 +132,31 @@ public final class ThoughtBoundsTest {
             y.image();
             CHECK.same("behind thought " + number, Check.lookThrough(x), Check.lookThrough(y));
             number++;
+        }
+    }
+
+    /** What one thought tried out is not there for the next. */
+    private static void thoughtsDoNotHearEachOther() {
+        List<ToLongFunction<RocketsAsk>> all = thoughts();
+        for (int first = 0; first < all.size(); first++) {
+            for (int second = 0; second < all.size(); second++) {
+                RocketsAsk x = early();
+                all.get(first).applyAsLong(x);
+                long due = all.get(second).applyAsLong(early());
+                CHECK.due("thought " + second + " behind " + first, all.get(second).applyAsLong(x), due);
+            }
+        }
+        RocketsAsk x = CHECK.told("p109;" + SIX_SPARKS);
+        for (int rocket = 0; rocket < 6; rocket++) {
+            x.whatSaid(rocket, 0);
+            CHECK.due("FEWEST behind other WORDS of " + rocket, x.fewest(0, 0), 63);
+            CHECK.due("LACKS behind other WORDS of " + rocket, x.words(0), 0);
+            CHECK.due("its WORD is as it was", x.rocket(rocket, 2), rocket);
+            x.whatSaid(rocket, 1);
+            CHECK.due("CHEAPEST behind other KINDS of " + rocket, x.fewest(0, 1), 6);
+            CHECK.due("COST behind other KINDS of " + rocket, x.longest(1), 6);
+            CHECK.due("MEAN behind other KINDS of " + rocket, x.mean(0), 1);
+            CHECK.due("its KIND is as it was", x.rocket(rocket, 0), 1);
         }
     }
 
